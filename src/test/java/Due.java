@@ -1,0 +1,25 @@
+/** Compares answers with those that are due, and ends a test's run. */
+final class Due {
+    private int wrong = 0;
+
+    void is(String call, long got, long want) {
+        if (got != want) {
+            wrong++;
+            System.out.println(call + " answered " + got + ", due is " + want);
+        }
+    }
+
+    void holds(String what, boolean so) {
+        if (!so) {
+            wrong++;
+            System.out.println("does not hold: " + what);
+        }
+    }
+
+    void end(String test) {
+        System.out.println(test + ": " + (wrong == 0 ? "all answers are as due" : wrong + " answers are not as due"));
+        if (wrong != 0) {
+            System.exit(1);
+        }
+    }
+}

@@ -1,0 +1,28 @@
+import java.io.IOException;
+import java.nio.file.Files;
+import java.nio.file.Path;
+import java.util.regex.Matcher;
+import java.util.regex.Pattern;
+
+/** The words and shapes that LANGUAGE.md rules out do not stand in the program. */
+public final class LanguageTest {
+    private static final String[] RULED_OUT = {
+        "\\b(package|import)\\s", "\\b(throw|throws|try|catch|finally|synchronized|assert|volatile|native)\\b",
+        "->", "::", "\\bSystem\\.(?!arraycopy)", "\\b\\w+Exact\\b", "\\bThread\\b", "\\bRandom\\b", "\\bObject\\b",
+        "\\bnew\\s+\\w+\\s*\\([^)]*\\)\\s*\\{", "\\bstatic\\s*\\{", "\\b(String|Integer)\\s*\\[", "\\bdouble\\b", "\\bfloat\\b",
+        "\\bwhile\\s*\\(\\s*true", "\\bfor\\s*\\(\\s*;", "\\b(hashCode|equals|toString)\\b", "@"};
+
+    public static void main(String[] args) throws IOException {
+        Due due = new Due();
+        String source = Files.readString(Path.of("src/main/java/ReaderRows.java"));
+        String code = source.replaceAll("(?s)/\\*.*?\\*/", "").replaceAll("//[^\n]*", "");
+        for (String shape : RULED_OUT) {
+            Matcher found = Pattern.compile(shape).matcher(code);
+            due.holds("no " + shape, !found.find());
+        }
+        Matcher statics = Pattern.compile("static (?!final|boolean \\w+\\(|int \\w+\\()").matcher(code);
+        due.holds("static fields are final", !statics.find());
+        due.holds("characters 0 to 127 alone", source.chars().allMatch(c -> c < 128));
+        due.end("LanguageTest");
+    }
+}
