@@ -9,6 +9,7 @@ public final class PromisesTest {
         promise2Reader();
         promise2ReaderJoinedGuardian();
         promise3Card();
+        promise3CardAll();
         promise4Whose();
         promise5Lost();
         promise6Block();
@@ -139,6 +140,23 @@ public final class PromisesTest {
         due.is("3 the refused card", x.card(2, 8), 1);
     }
 
+    private static void promise3CardAll() {
+        ReaderRows x = new ReaderRows();
+        for (int number = 1; number <= 60; number++) {
+            x.reader(0, 0);
+            for (int c = 1; c <= 5; c++) {
+                due.is("3 card " + c + " of " + number, x.card(number, number * 10 + c), c);
+            }
+        }
+        due.is("3 all cards: nobody's", x.whose(7), 0);
+        due.is("3 all cards: the last", x.whose(605), 60);
+        due.is("3 all cards: how many", x.about(60, 2), 5);
+        due.is("3 all cards: join", x.join(60, 1), 1);
+        due.is("3 all cards: the last is the other's", x.whose(605), 1);
+        due.is("3 all cards: none more", x.card(60, 7), 0);
+        due.is("3 all cards: none in place", x.lost(605, 7), -2);
+    }
+
     private static void promise4Whose() {
         ReaderRows x = withReaders(0, 0, 0);
         x.card(2, 40);
@@ -220,6 +238,10 @@ public final class PromisesTest {
         ReaderRows y = withReaders(0, 0);
         due.is("7 no block on day -1", y.blocked(1, -1), -1);
         due.is("7 no block on day MIN", y.blocked(2, Long.MIN_VALUE), -1);
+        y.block(2, 0, 5);
+        due.is("7 not the next reader's", y.blocked(1, 5), -1);
+        y.block(1, 5, 5);
+        due.is("7 not the reader's before", y.blocked(2, 5), 0);
     }
 
     private static void promise8Consent() {
@@ -292,7 +314,15 @@ public final class PromisesTest {
         }
         due.is("10 a loan more", x.loan(1, 1, 5, 6), 0);
         due.is("10 how many", x.about(1, 4), 200);
-        due.is("10 made ANONYMOUS", x.anonymise(LAST_DAY), 198);
+        due.is("10 the last in order", x.kept(1, 199, 0), 3);
+        due.is("10 all in a join", x.join(x.reader(1, 0), 1), 1);
+        x.reader(1, 0);
+        due.is("10 all in a join", x.join(1, 3), 1);
+        due.is("10 all are the other's", x.about(3, 4), 200);
+        x.consent(1, true, 0);
+        due.is("10 none by consent", x.anonymise(LAST_DAY), 0);
+        due.is("10 taken back", x.consent(1, false, 36), 1);
+        due.is("10 a day more", x.anonymise(37), 197);
         due.is("10 ANONYMOUS ones count among 200", x.loan(1, 1, 5, 6), 0);
     }
 
@@ -360,10 +390,10 @@ public final class PromisesTest {
             x.card(1, c);
             x.card(2, 10 + c);
         }
-        x.block(1, 0, 5);
-        x.block(2, 0, 6);
-        x.block(1, 1, 8);
-        x.block(2, 1, 7);
+        x.block(1, 0, 6);
+        x.block(2, 0, 5);
+        x.block(1, 1, 7);
+        x.block(2, 1, 8);
         x.block(1, 2, 9);
         x.block(2, 3, 10);
         x.loan(1, 70, 0, 5);
@@ -377,8 +407,8 @@ public final class PromisesTest {
         due.is("13 cards by the old number", x.about(1, 2), 10);
         due.is("13 no card more", x.card(1, 99), 0);
         due.is("13 whose", x.whose(3), 2);
-        due.is("13 its own later end", x.blocked(2, 6), 0);
-        due.is("13 the other later end", x.blocked(2, 8), 1);
+        due.is("13 the one's later end", x.blocked(2, 6), 0);
+        due.is("13 the other's later end", x.blocked(2, 8), 1);
         due.is("13 the one's only", x.blocked(1, 9), 2);
         due.is("13 the other's only", x.blocked(2, 10), 3);
         due.is("13 no block beyond", x.blocked(2, 11), -1);
@@ -512,13 +542,14 @@ public final class PromisesTest {
         due.is("16 letters of a and z", importRow(x, "za 1 10"), 5);
         due.is("16 another name of that length", importRow(x, "zb 1 10"), 6);
         due.is("16 a name that begins so", importRow(x, "zbc 1 10"), 7);
-        due.is("16 year 100", importRow(x, "za 1 100"), 8);
+        due.is("16 a name that ends so", importRow(x, "ya 1 10"), 8);
+        due.is("16 year 100", importRow(x, "za 1 100"), 9);
         due.is("16 known", importRow(x, "abcdefghijkl 0 99999"), -3);
         due.is("16 known by its number", importRow(x, "za 0 0010"), -5);
         due.is("16 join", x.join(2, 1), 1);
-        due.is("16 a JOINED one is not found", importRow(x, "a 1 0"), 9);
-        due.is("16 nor does its NAME go over", importRow(x, "a 1 0"), -9);
-        due.is("16 join", x.join(9, 5), 1);
+        due.is("16 a JOINED one is not found", importRow(x, "a 1 0"), 10);
+        due.is("16 nor does its NAME go over", importRow(x, "a 1 0"), -10);
+        due.is("16 join", x.join(10, 5), 1);
         due.is("16 the other's NAME stays", importRow(x, "za 1 10"), -5);
     }
 
@@ -543,10 +574,10 @@ public final class PromisesTest {
         for (int number = 2; number <= 59; number++) {
             x.reader(0, 0);
         }
-        due.is("16 the last", importRow(x, "eve 1 1980"), 60);
+        due.is("16 the last", importRow(x, "evelynevelyn 1 1980"), 60);
         due.is("16 there are 60", importRow(x, "ann 1 1980"), 0);
         due.is("16 there are 60, a misfit", importRow(x, "ann 9 1980"), -104);
-        due.is("16 there are 60, known", importRow(x, "eve 2 1980"), -60);
+        due.is("16 there are 60, known", importRow(x, "evelynevelyn 2 1980"), -60);
         due.is("16 there are 60, nothing is collected", importRow(x, "bob 1 1980"), -1);
         due.is("16 what was refused has no NAME", like(x, "ann"), 1);
     }
@@ -598,6 +629,12 @@ public final class PromisesTest {
         due.is("17 one letter", like(x, "c"), 3);
         due.is("17 three letters around it", like(x, "xbyz"), 3);
         due.is("17 four letters, none of it", like(x, "wxyz"), 0);
+        due.is("17 empty is no NAME, though one letter is near", like(x, ""), 0);
+        ReaderRows y = new ReaderRows();
+        importRow(y, "b 0 1");
+        due.is("17 far and longer, at first", like(y, "abcdefgh"), 0);
+        due.is("17 near", like(y, "abcd"), 1);
+        due.is("17 far after near", like(y, "abcde"), 0);
     }
 
     private static void promise18About() {
