@@ -68,6 +68,9 @@ public final class FaceTest {
             due.holds(one + " is static and can't be seen from outside", Modifier.isStatic(modifiers)
                 && !Modifier.isPublic(modifiers) && !Modifier.isProtected(modifiers));
             due.holds(one + " has at most twenty fields", one.getDeclaredFields().length <= 20);
+            for (Method method : one.getDeclaredMethods()) {
+                due.holds(method + " takes at most seven parameters", method.getParameterCount() <= 7);
+            }
         }
     }
 }

@@ -22,7 +22,18 @@ public final class LanguageTest {
         }
         Matcher statics = Pattern.compile("static (?!final|boolean \\w+\\(|int \\w+\\()").matcher(code);
         due.holds("static fields are final", !statics.find());
+        int longest = longestMethod(code);
+        due.holds("methods of sixty lines at most, not " + longest, longest > 1 && longest <= 60);
         due.holds("characters 0 to 127 alone", source.chars().allMatch(c -> c < 128));
         due.end("LanguageTest");
+    }
+
+    private static int longestMethod(String code) {
+        Matcher methods = Pattern.compile("(?ms)^( {4}| {8})\\w[^\\n;=]*\\) \\{$.*?^\\1\\}$").matcher(code);
+        int longest = 0;
+        while (methods.find()) {
+            longest = Math.max(longest, (int) methods.group().lines().count());
+        }
+        return longest;
     }
 }

@@ -180,15 +180,27 @@ public final class ReaderSentencesTest {
             due.is("no later than that", x.blocked(2, end[2] + 1), -1);
             due.is("by the old number", x.blocked(1, end[2]), 2);
         }
+        for (int sort = 0; sort <= 5; sort++) {
+            Rows x = Rows.of(0, 0);
+            x.block(1, sort, 5);
+            x.join(1, 2);
+            due.is("sort " + sort, x.blocked(2, 5), sort);
+        }
         Rows x = Rows.of(0, 0);
         x.block(1, 1, 20);
         x.block(2, 0, 10);
         x.join(1, 2);
         due.is("another sort stays", x.blocked(2, 10), 0);
         due.is("another sort comes", x.blocked(2, 11), 1);
-        Rows y = Rows.of(0, 0);
-        y.join(1, 2);
-        due.is("no blocks, none by a join", y.blocked(2, Long.MIN_VALUE), -1);
+        Rows y = Rows.of(0, 0, 0, 0, 0, 0);
+        y.block(1, 5, 9);
+        y.block(3, 0, 9);
+        y.join(2, 5);
+        for (int number : new int[] {2, 4, 5, 6}) {
+            due.is("no block comes from a reader beside it, to " + number, y.blocked(number, Long.MIN_VALUE), -1);
+        }
+        due.is("the block of one beside it stays", y.blocked(1, 9), 5);
+        due.is("the block of one beside it stays", y.blocked(3, 9), 0);
     }
 
     private static void joinWards() {

@@ -174,9 +174,20 @@ public final class RowSentencesTest {
         due.is("another NAME", x.importRow("bob 1 1970"), -3);
         due.is("another year", x.importRow("ann 1 1971"), -4);
         due.is("no reader more by those", x.reader(0, 0), 5);
+        due.is("year 1969", x.importRow("ann 1 1969"), 6);
+        due.is("year 9", x.importRow("ann 1 9"), 7);
+        due.is("year 10", x.importRow("ann 1 10"), 8);
         due.is("a year is a number", x.importRow("bob 1 01970"), -3);
-        due.is("a year is a number", x.importRow("eve 1 007"), 6);
-        due.is("a year is a number", x.importRow("eve 1 7"), -6);
+        due.is("a year is a number", x.importRow("eve 1 007"), 9);
+        due.is("a year is a number", x.importRow("eve 1 7"), -9);
+        Rows y = new Rows();
+        String[] longest = {"abcdefghijkl", "mnopqrstuvwx", "yzabcdefghij"};
+        for (int i = 0; i < longest.length; i++) {
+            due.is("the longest NAMES side by side", y.importRow(longest[i] + " 1 7"), i + 1);
+        }
+        for (int i = 0; i < longest.length; i++) {
+            due.is("each is known", y.importRow(longest[i] + " 1 7"), -i - 1);
+        }
     }
 
     private static void knownNotJoined() {
@@ -201,17 +212,17 @@ public final class RowSentencesTest {
             x.reader(0, 0);
         }
         due.is("the 59th", x.importRow("ann 1 1970"), 59);
-        due.is("the 60th", x.importRow("bob 2 1970"), 60);
+        due.is("the 60th, with the longest NAME", x.importRow("bobbobbobbob 2 1970"), 60);
         due.is("the 61st", x.importRow("eve 3 1970"), 0);
         due.is("none came", x.about(61, 0), -1);
         due.is("the 60th is as it was", x.about(60, 0), 2);
-        due.is("its NAME, too", x.likeName("bob"), 60);
+        due.is("its NAME, too", x.likeName("bobbobbobbob"), 60);
         due.is("the refused NAME is nobody's, so a near one", x.likeName("eve"), 59);
-        due.is("a known one", x.importRow("bob 3 1970"), -60);
+        due.is("a known one", x.importRow("bobbobbobbob 3 1970"), -60);
         due.is("a row that does not fit", x.importRow("eve 5 1970"), -104);
         due.is("nothing is collected any more", x.import0(), -100);
         due.is("a join", x.join(60, 1), 1);
-        due.is("makes no number free", x.importRow("bob 2 1970"), 0);
+        due.is("makes no number free", x.importRow("bobbobbobbob 2 1970"), 0);
     }
 
     private static void firstThatDoesNotFit() {
@@ -316,7 +327,13 @@ public final class RowSentencesTest {
         due.is("one to change and one to put in", x.likeName("mrtans"), 1);
         due.is("one before all", x.likeName("xmarti"), 3);
         due.is("two letters in each other's places are two", x.likeName("amrti"), 3);
-        due.is("all before it goes on", x.likeName("artens"), 1);
+        due.is("the first letter to put in", x.likeName("artens"), 1);
+        Rows y = new Rows();
+        y.importRow("abcdefghijkx 0 1");
+        y.importRow("bobb 0 1");
+        y.importRow("xbcdefghijkl 0 1");
+        due.is("another reader's letters do not count, before", y.likeName("xxxxbobb"), 0);
+        due.is("another reader's letters do not count, behind", y.likeName("bobbxxxx"), 0);
     }
 
     private static void threeAtMost() {
