@@ -33,7 +33,7 @@ public final class FaceTest {
                 !Modifier.isPrivate(method.getModifiers()) || !publicNames.contains(method.getName()));
         }
         checkFields(due);
-        checkClasses(due);
+        checkClasses(due, publicNames);
         due.end("FaceTest");
     }
 
@@ -55,7 +55,7 @@ public final class FaceTest {
         due.is("NONE", ReaderRows.NONE, -1);
     }
 
-    private static void checkClasses(Due due) {
+    private static void checkClasses(Due due, Set<String> publicNames) {
         due.holds("public final class", Modifier.isPublic(ReaderRows.class.getModifiers())
             && Modifier.isFinal(ReaderRows.class.getModifiers()));
         due.is("constructors", ReaderRows.class.getDeclaredConstructors().length, 1);
@@ -70,6 +70,7 @@ public final class FaceTest {
             due.holds(one + " has at most twenty fields", one.getDeclaredFields().length <= 20);
             for (Method method : one.getDeclaredMethods()) {
                 due.holds(method + " takes at most seven parameters", method.getParameterCount() <= 7);
+                due.holds(method + " does not bear the name of a public one", !publicNames.contains(method.getName()));
             }
         }
     }

@@ -24,8 +24,22 @@ public final class LanguageTest {
         due.holds("static fields are final", !statics.find());
         int longest = longestMethod(code);
         due.holds("methods of sixty lines at most, not " + longest, longest > 1 && longest <= 60);
+        lookAtWhatIsMade(due, code);
         due.holds("characters 0 to 127 alone", source.chars().allMatch(c -> c < 128));
         due.end("LanguageTest");
+    }
+
+    // javac lets a final field be set in a constructor alone, so what is made for one is made once an object.
+    private static void lookAtWhatIsMade(Due due, String code) {
+        Matcher made = Pattern.compile("(?m)^.*\\bnew\\b.*$").matcher(code);
+        int count = 0;
+        while (made.find()) {
+            Matcher set = Pattern.compile("\\s*(\\w+) = new [\\w.]+[\\[(].*;").matcher(made.group());
+            due.holds("made for a final field: " + made.group().strip(),
+                set.matches() && Pattern.compile("private final \\S+ " + set.group(1) + ";").matcher(code).find());
+            count++;
+        }
+        due.holds("something is made", count > 0);
     }
 
     private static int longestMethod(String code) {
